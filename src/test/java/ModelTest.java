@@ -6,7 +6,7 @@ import java.util.Random;
 
 /** All promises: random runs of calls, each answered by WrongRoom and by Model. */
 final class ModelTest {
-    private static final int RUNS = 300;
+    private static final int RUNS = 150;
     private static final int FAULTY_TEXTS = 30000;
     private static final String[] CALLS = {"town", "fault", "where", "house", "open", "street", "person", "candle",
         "candleAt", "mutual", "judge", "way", "wayAt", "saves", "farthest", "homeIn", "fits", "could", "surely",
