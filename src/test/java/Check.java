@@ -7,14 +7,26 @@ final class Check {
     static final String TWO = TOWN + ";" + house("a", 3, 100, "x") + ";" + house("b", 5, 60, "y");
 
     private static int wrong = 0;
+    private static int looks = 0;
+    private static String under = "";
 
     private Check() {
     }
 
+    /** Some words of the document with a test of their own; PromisesTest looks whether they stand there. */
+    static void promise(int number, String words, Runnable test) {
+        under = "promise " + number + ", \"" + words + "\": ";
+        int before = looks;
+        test.run();
+        due("whether the test looks at anything", looks > before, true);
+        under = "";
+    }
+
     static void due(String call, long got, long want) {
+        looks++;
         if (got != want) {
             wrong++;
-            System.out.println(call + " answered " + got + ", due is " + want);
+            System.out.println(under + call + " answered " + got + ", due is " + want);
         }
     }
 
@@ -34,6 +46,33 @@ final class Check {
 
     static void denied(WrongRoom x, String call, boolean got, int trouble) {
         refused(x, call, got ? 1 : 0, 0, trouble);
+    }
+
+    static void answered(WrongRoom x, String call, long got, long want) {
+        refused(x, call, got, want, 0);
+    }
+
+    /** All that can be asked of what is told and what is NOW, but TROUBLE. */
+    static String state(WrongRoom x) {
+        StringBuilder text = new StringBuilder();
+        for (int what = 0; what <= 12; what++) {
+            text.append(x.size(what)).append(' ');
+        }
+        for (int h = 0; h < x.size(2); h++) {
+            for (int what = 0; what < 6; what++) {
+                text.append(x.house(h, what)).append(' ');
+            }
+        }
+        for (int p = 0; p < x.size(6); p++) {
+            for (int what = 0; what < 3; what++) {
+                text.append(x.person(p, what)).append(' ');
+            }
+        }
+        return text.toString();
+    }
+
+    static void unchanged(WrongRoom x, String call, String before) {
+        due("nothing is changed by " + call, state(x).equals(before), true);
     }
 
     static void ledThrows(WrongRoom x, int i) {
