@@ -53,7 +53,8 @@ final class ActsTest {
     }
 
     private static void undo() {
-        Check.promise(41, "ACTS: EXCHANGE, SHUT a DOOR, or open it, GO", ActsTest::undoEach);
+        Check.promise(41, "ACTS: EXCHANGE, SHUT a DOOR, or open it, GO (a person, by a street or a DOOR, to a house: the"
+                + " lesser minutes of those there are NOW), WAIT.", ActsTest::undoEach);
         Check.promise(41, "UNDO: true", ActsTest::undoneAndDoneAgain);
         Check.promise(41, "false: 6.", ActsTest::nothingToUndo);
         Check.promise(41, "UNDO: the latest (16 are kept).", ActsTest::sixteenAreKept);
