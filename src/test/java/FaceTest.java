@@ -26,8 +26,8 @@ final class FaceTest {
         Set<String> names = new TreeSet<>();
         for (Method m : WrongRoom.class.getDeclaredMethods()) {
             if (Modifier.isPrivate(m.getModifiers())) {
-                Check.due("private " + m.getName() + " bears a name of the face", FACE.contains(" " + m.getName() + "("),
-                        false);
+                Check.due("private " + m.getName() + " bears a name of the face",
+                        (" " + FACE).contains(" " + m.getName() + "("), false);
                 continue;
             }
             names.add(m.getName());
@@ -51,6 +51,11 @@ final class FaceTest {
                 Modifier.PUBLIC | Modifier.FINAL);
         for (Class<?> c : WrongRoom.class.getDeclaredClasses()) {
             Check.due(c.getName() + " is static", Modifier.isStatic(c.getModifiers()), true);
+            Check.due(c.getName() + " can't be seen", c.getModifiers() & (Modifier.PUBLIC | Modifier.PROTECTED), 0);
+            for (Method m : c.getDeclaredMethods()) {
+                Check.due(c.getName() + "'s " + m.getName() + " bears a name of the face", names.contains(m.getName()),
+                        false);
+            }
         }
         Check.end();
     }
