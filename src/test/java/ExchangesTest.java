@@ -102,6 +102,12 @@ final class ExchangesTest {
         Check.due("paired() of another town", x.paired(), 0);
         Check.tell(x, Check.houses(5) + Check.wrongs("ba..."));
         Check.due("paired() of a third", x.paired(), 2);
+        Check.tell(x, Check.houses(5) + Check.wrongs(".a..."));
+        Check.due("paired() of one room less", x.paired(), 0);
+        Check.tell(x, Check.houses(7) + Check.wrongs("bcdefga"));
+        Check.due("exchangeAt(1) of seven", x.exchangeAt(1), 4);
+        Check.tell(x, Check.houses(7) + Check.wrongs("gabcdef"));
+        Check.due("exchangeAt(1) of seven others", x.exchangeAt(1), 24);
     }
 
     private static void withoutTown() {
@@ -191,6 +197,9 @@ final class ExchangesTest {
                 + ";street a b minutes 50;street b c minutes 4;street a c minutes 5");
         Check.answered(around, "stands(8), by another house", around.stands(8), 0b100);
         Check.answered(around, "stands(9), by another house", around.stands(9), 0b001);
+        WrongRoom first = Check.town(Check.houses(4)
+                + ";street a b minutes 4;street a c minutes 5;street b d minutes 9");
+        Check.answered(first, "stands(9), through the first house", first.stands(9), 0b0010);
     }
 
     private static void streetsAlone() {

@@ -173,6 +173,12 @@ final class FitsTest {
         Check.answered(x, "could(0) NOW", x.could(0), 0b1000);
         Check.answered(x, "could(2) NOW", x.could(2), 0b0010);
         Check.answered(x, "could(1) NOW", x.could(1), 0b0101);
+        WrongRoom all = Check.town(Check.houses(3) + Check.wrongs("bca"));
+        Check.answered(all, "could(0), all are known", all.could(0), 0b0010);
+        WrongRoom one = Check.town(Check.houses(3) + Check.wrongs("b.a"));
+        Check.due("fits(), there is one row", one.fits(), 1);
+        Check.answered(one, "could(0), there is one row", one.could(0), 0b0010);
+        Check.answered(one, "could(1), there is one row", one.could(1), 0b0100);
     }
 
     private static void couldWithoutRow() {
@@ -194,6 +200,8 @@ final class FitsTest {
         Check.answered(x, "surely(0), known", x.surely(0), 1);
         x.exchange(0, 2);
         Check.answered(x, "surely(0) NOW", x.surely(0), 3);
+        WrongRoom all = Check.town(Check.houses(3) + Check.wrongs("bca"));
+        Check.answered(all, "surely(2), all are known", all.surely(2), 0);
         WrongRoom two = Check.town(Check.houses(2));
         Check.answered(two, "surely(0) of two", two.surely(0), 1);
         Check.answered(two, "surely(1) of two", two.surely(1), 0);
@@ -242,6 +250,11 @@ final class FitsTest {
         x.exchange(0, 2);
         Check.due("firstOf(0) NOW", x.firstOf(0), 3);
         Check.due("firstOf(1) NOW", x.firstOf(1), 0);
+        Check.tell(x, Check.houses(5) + Check.wrongs("e...."));
+        int[] due = {4, 0, 1, 2, 3};
+        for (int h = 0; h < due.length; h++) {
+            Check.due("firstOf(" + h + ") of another town", x.firstOf(h), due[h]);
+        }
     }
 
     private static void noFirstRow() {

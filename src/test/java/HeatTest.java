@@ -147,6 +147,9 @@ final class HeatTest {
         WrongRoom close = Check.town(Check.TOWN + ";" + Check.house("a", 8, 998, "x") + ";" + Check.house("b", 7, 887, "x")
                 + ";wrong a of b;wrong b of a");
         Check.answered(close, "debtor() of 887 by 8 and 998 by 9", close.debtor(), 1);
+        WrongRoom small = Check.town(Check.TOWN + ";" + Check.house("a", 9, 1, "x") + ";" + Check.house("b", 1, 0, "x")
+                + ";wrong a of b");
+        Check.answered(small, "debtor() of 1 by 10", small.debtor(), 1);
     }
 
     private static void firstDebtor() {

@@ -365,6 +365,11 @@ final class NowTest {
         y.exchange(0, 1);
         Check.answered(y, "mutual() NOW", y.mutual(), 0b0001100);
         Check.due("mutual() of two", Check.town(Check.houses(2) + Check.wrongs("ba")).mutual(), 3);
+        WrongRoom shut = Check.town(Check.houses(7) + Check.wrongs("badcfe."));
+        for (int h = 0; h < 7; h++) {
+            shut.shut(h, true);
+            Check.answered(shut, "mutual(), SHUT or not", shut.mutual(), 0b0111111);
+        }
     }
 
     private static void notMutual() {

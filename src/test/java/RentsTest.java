@@ -235,6 +235,10 @@ final class RentsTest {
         rest(two(2, 1, 6), -2, -2);
         rest(two(1, 1, 1), -2, -2);
         rest(two(9, 1, 9), -2, -2);
+        WrongRoom x = Check.town(two(2, 9, 9) + ";" + Check.house("c", 1, 0, "x") + ";" + Check.house("d", 6, 0, "x"));
+        Check.due("rest(0, 2), there is one", x.rest(0, 2), 50);
+        Check.answered(x, "rest(2, 3) behind that", x.rest(2, 3), -2);
+        Check.answered(x, "rests(2, 3) behind that", x.rests(2, 3), 0);
     }
 
     private static void restRefused() {

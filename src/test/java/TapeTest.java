@@ -18,6 +18,7 @@ final class TapeTest {
         Check.promise(3, "The first n bytes of THE TAPE", TapeTest::firstBytes);
         Check.promise(3, "(it is empty then)", TapeTest::tapeIsEmptyThen);
         Check.promise(3, "are the TOWN from now on", TapeTest::fromNowOn);
+        Check.promise(3, "are the TOWN from now on", TapeTest::townByTown);
         Check.promise(3, "rooms as told", TapeTest::roomsAsTold);
         Check.promise(3, "no DOOR SHUT", TapeTest::noDoorShut);
         Check.promise(3, "nothing to undo", TapeTest::nothingToUndo);
@@ -211,6 +212,36 @@ final class TapeTest {
         Check.refused(x, "person(0, 0)", x.person(0, 0), 1);
         Check.due("judge()", x.judge(), -2);
         Check.due("fits()", x.fits(), 1);
+    }
+
+    /** Nothing of a text, with a FAULT or without one, is left for those behind it. */
+    private static void townByTown() {
+        String rich = Check.houses(6).replace("door 2 like 0", "door 9 like 9") + Check.wrongs("bcdefa")
+                + ";open a from 1 to 2;open b from 1 to 2;street a b minutes 5;street f c minutes 6"
+                + ";person p home a at b;person q home a at b;sign a z;sign b z;noise a 9;noise b 9";
+        String plain = Check.TOWN + ";" + Check.house("p", 3, 0, "x") + ";" + Check.house("q", 3, 0, "x") + ";"
+                + Check.house("r", 3, 0, "x");
+        WrongRoom x = new WrongRoom();
+        for (int i = 0; i < 4; i++) {
+            if (i % 2 == 0) {
+                Check.refused(x, "a rich text with a FAULT", Check.tell(x, rich + ";!"), 4);
+            } else {
+                Check.answered(x, "a rich text", Check.tell(x, rich), 6);
+                Check.refused(x, "a rich text with a FAULT", Check.tell(x, rich + ";!"), 4);
+                Check.answered(x, "a rich text again", Check.tell(x, rich), 6);
+            }
+            Check.answered(x, "a plain text", Check.tell(x, plain), 3);
+            int[] due = {2, 0, 3, 0, 0, 0, 0, 0, 0, 0, 0, 0, 0};
+            for (int what = 0; what < due.length; what++) {
+                Check.due("size(" + what + ") of it", x.size(what), due[what]);
+            }
+            Check.due("street(0, 1) of it", x.street(0, 1), -2);
+            Check.due("house(0, 3) of it", x.house(0, 3), -2);
+            Check.due("judge() of it", x.judge(), -2);
+            Check.due("fits() of it", x.fits(), 2);
+            Check.due("stands(99) of it", x.stands(99), 7);
+            Check.due("way(0, 1, 0) of it", x.way(0, 1, 0), -2);
+        }
     }
 
     private static void roomsAsTold() {

@@ -31,6 +31,7 @@ final class TextTest {
         Check.promise(3, "blanks, 32, part TOKENS and mean nothing else", TextTest::blanks);
         Check.promise(3, "blanks, 32, part TOKENS and mean nothing else", TextTest::noOtherBlanks);
         Check.promise(3, "TOKENS: WORDS of 1 to 8 small letters that stand together", TextTest::words);
+        Check.promise(3, "WORDS of 1 to 8 small letters that stand together", TextTest::wordsApart);
         Check.promise(3, "small letters", TextTest::smallLetters);
         Check.promise(3, "WHOLES of 1 to 3 digits that do", TextTest::wholes);
         Check.promise(3, "single ones of ;", TextTest::semicolons);
@@ -131,6 +132,25 @@ final class TextTest {
         Check.due("house(0, 3), the eighth letter counts", x.house(0, 3), 2);
         WrongRoom y = good(TWO + ";wrong a of b;sign a ya", 2);
         Check.due("judge(), WORDS of unlike lengths", y.judge(), 0);
+        WrongRoom z = good(TWO.replace("smells y", "smells zzzzzzzz") + ";wrong a of b;sign a zzzzzzzz;sign a zzzzzzz", 2);
+        Check.due("judge(), the longest WORD", z.judge(), 1);
+    }
+
+    /** All WORDS of one and of two letters by which a WORD could be mistaken. */
+    private static void wordsApart() {
+        for (char c = 'a'; c <= 'z'; c++) {
+            unlike("y", c + "y");
+            unlike("y", "y" + c);
+            unlike("y", c == 'y' ? "x" : String.valueOf(c));
+            unlike("ab", c == 'b' ? "ba" : "a" + c);
+            unlike("abcdefgh", c == 'h' ? "abcdefg" : "abcdefg" + c);
+        }
+    }
+
+    private static void unlike(String smell, String other) {
+        WrongRoom x = Check.town(TWO.replace("smells y", "smells " + smell) + ";wrong a of b;sign a " + smell + ";sign a "
+                + other);
+        Check.due("judge() of " + other + " by " + smell, x.judge(), 1);
     }
 
     private static void smallLetters() {
@@ -541,6 +561,8 @@ final class TextTest {
         Check.fault(full + ";person t home a at a", 5, full.length() + 1);
         Check.fault(full + ";person p", 5, full.length() + 1);
         good(full + ";sign a x;noise a 1", 2);
+        good(full + ";" + Check.house("c", 1, 0, "x") + ";wrong a of c", 3);
+        Check.fault(full + ";house s", 3, full.length() + 7);
     }
 
     private static void manySigns() {

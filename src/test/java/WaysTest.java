@@ -273,7 +273,10 @@ final class WaysTest {
         for (int i : new int[] {-1, 4, 7, MIN, MAX}) {
             Check.refused(x, "wayAt(0, 3, 0, " + i + ")", x.wayAt(0, 3, 0, i), 1);
         }
+        row(x, 0, 4, 0);
         Check.refused(x, "wayAt(0, 0, 0, 1)", x.wayAt(0, 0, 0, 1), 1);
+        x.wayAt(0, 3, 0, 3);
+        row(x, 4, 0, 0);
         WrongRoom all = Check.town(Check.houses(7) + Check.wrongs("bcdefg."));
         Check.answered(all, "wayAt(0, 6, 0, 6)", all.wayAt(0, 6, 0, 6), 6);
         Check.refused(all, "wayAt(0, 6, 0, 7)", all.wayAt(0, 6, 0, 7), 1);
@@ -302,6 +305,14 @@ final class WaysTest {
         Check.answered(x, "saves(0, 1, 0), SHUT", x.saves(0, 1, 0), 0);
         WrongRoom y = Check.town(Check.houses(2) + Check.wrongs("b.") + ";street a b minutes 1");
         Check.answered(y, "saves(0, 1, 0), the street is sooner", y.saves(0, 1, 0), 0);
+        for (char between = 'a'; between <= 'c'; between++) {
+            String others = "abc".replace(String.valueOf(between), "");
+            WrongRoom z = Check.town(Check.houses(3) + ";wrong " + others.charAt(0) + " of " + others.charAt(1)
+                    + ";street " + between + " " + others.charAt(0) + " minutes 5;street " + between + " "
+                    + others.charAt(1) + " minutes 6;street " + others.charAt(0) + " " + others.charAt(1) + " minutes 99");
+            Check.answered(z, "saves by streets through " + between,
+                    z.saves(others.charAt(0) - 'a', others.charAt(1) - 'a', 0), 9);
+        }
     }
 
     private static void noStreets() {
@@ -337,6 +348,11 @@ final class WaysTest {
         Check.answered(x, "farthest(3, 0)", x.farthest(3, 0), 4);
         x.shut(3, true);
         Check.answered(x, "farthest(3, 0), SHUT", x.farthest(3, 0), 1);
+        WrongRoom seven = Check.town(Check.houses(7) + ";street a b minutes 9;street b c minutes 9;street c d minutes 9"
+                + ";street d e minutes 9;street e f minutes 9;street f g minutes 9");
+        Check.answered(seven, "farthest(0, 0), the last house", seven.farthest(0, 0), 6);
+        Check.answered(seven, "farthest(6, 0), the first house", seven.farthest(6, 0), 0);
+        Check.answered(seven, "farthest(3, 0), both are as far", seven.farthest(3, 0), 0);
     }
 
     private static void alone() {
